@@ -704,9 +704,13 @@ public final class NineSails {
             case SAFE: return fastest(scene, Math.min(scene.wind + 1, WINDS - 1));
             case BEST: return worthiest(rule, scene);
             case WATCH: return asTold(rule, scene, NO_SAIL);
-            case TOLD: return asTold(rule, scene, scene.hour < TOLD_HOURS ? rule.row[scene.hour] : NO_SAIL);
+            case TOLD: return asTold(rule, scene, rowAt(rule, scene.hour));
             default: return asUp(scene);
         }
+    }
+
+    private static int rowAt(Rule rule, int hour) {
+        return hour >= 0 && hour < TOLD_HOURS ? rule.row[hour] : NO_SAIL;
     }
 
     private int asUp(Scene scene) {

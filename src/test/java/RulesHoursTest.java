@@ -57,6 +57,7 @@ public final class RulesHoursTest {
         for (int i = 0; i < 10; i++) due("12 number", x.rule(i % 7, i), i);
         due("12 count", x.count(2), 10);
         due("12 full", x.rule(0, 0), -4);
+        due("15 no eleventh", x.picks(10), -1);
         due("12 kind ahead of full", x.rule(7, 0), -1);
         due("12 v ahead of full", x.rule(0, 10), -2);
         for (int i = 0; i < 10; i++) due("12 its kind", x.taken(i, 0), i % 7);
@@ -189,6 +190,12 @@ public final class RulesHoursTest {
         }
         x.set(1, 1);
         due("16 safe goes by the wind that is", x.go(0, false, 1), 0);
+        Checks.race(x, "go 5 s=0;go 6 s=1&w=2");
+        int[] then = {0, 1, 0, 0};
+        for (int wind = 0; wind < 4; wind++) {
+            x.set(1, wind);
+            due("15 safe in " + wind, x.picks(0), then[wind]);
+        }
     }
 
     private static void picksOfBest() {
@@ -448,6 +455,11 @@ public final class RulesHoursTest {
         due("19 with none up", x.edge(2), 3);
         due("19 with none up, one hour", x.edge(1), 0);
         due("19 n", x.edge(Integer.MAX_VALUE), -2);
+        x = twoSails();
+        Checks.race(x, "go 5 s=0;go 13 s=1;lose 20");
+        due("19 not for 8", x.edge(1), 9);
+        Checks.race(x, "go 5 s=0;go 14 s=1;lose 20");
+        due("19 for 9 it can't be helped", x.edge(1), 0);
     }
 
     private static void few() {
@@ -477,6 +489,14 @@ public final class RulesHoursTest {
         due("20 of two one", x.few(0, 1, 3), 2);
         Checks.race(x, "lose 9;go 5 s=0&w=3");
         due("20 rather none", x.few(0, 2, 1), 0);
+        x = twoSails();
+        x.hoist(-1);
+        x.make(0, 1, false);
+        due("20 none that is ashore", x.few(0, 6, 3), 2);
+        x.make(0, 1, true);
+        x.make(0, 0, false);
+        due("20 none that is torn", x.few(0, 6, 3), 2);
+        due("20 none that is torn", x.few(0, 1, 1), 2);
     }
 
     private static void fewWithUp() {
@@ -491,7 +511,12 @@ public final class RulesHoursTest {
         x.line(2, 0, 0);
         // As the watch tells, sail 0 with sail 1 aboard too; without sail 0 it keeps sail 1.
         due("20 better without", x.few(2, 3, 1), 2);
-        due("20 nothing changed", x.ship(0), 1);
+        x.rule(HOLD, 5);
+        x.hoist(0);
+        x.set(0, 9);
+        // Sail 1 is 4 more than sail 0, but 9 more than none, once sail 0 is down.
+        due("20 down first", x.few(3, 3, 1), 2);
+        due("20 nothing changed", x.ship(0), 0);
         due("20 nothing changed", x.of(0, 3), 1);
     }
 
@@ -524,6 +549,8 @@ public final class RulesHoursTest {
         NineSails x = twoSails();
         dueFraction("22 two hours", x.sleep(0, 2, 0), x.sleep(0, 2, 1), 2, 1);
         dueFraction("22 one hour", x.sleep(0, 1, 0), x.sleep(0, 1, 1), -2, 1);
+        x.set(0, 5);
+        dueFraction("22 one alone sleeps", x.sleep(0, 2, 0), x.sleep(0, 2, 1), 0, 1);
         x.set(0, 3);
         dueFraction("22 not needed", x.sleep(0, 2, 0), x.sleep(0, 2, 1), 0, 1);
         x.set(0, 0);

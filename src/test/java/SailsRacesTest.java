@@ -267,6 +267,11 @@ public final class SailsRacesTest {
         fault("go 5 s!1", 6);
         fault("tear 1 q=1", 7);
         fault("tear 1 s=1|!w>2&(t<13|h=9)", -1);
+        fault("go5 s=1", 2);
+        fault("lose5", 4);
+        fault("wind0 1 2", 4);
+        fault("wind  1 2 3", 5);
+        fault("wind x 1 2", 5);
         fault("wind 4", 5);
         fault("wind 0", 6);
         fault("wind 0 4", 7);
@@ -307,6 +312,7 @@ public final class SailsRacesTest {
         due("9 holds", x.speed(0, 0, 0, 0), 5);
         due("9 fault", Checks.race(x, "go 6 s=0;go 7 s=0&"), -28);
         due("9 the one that held holds", x.speed(0, 0, 0, 0), 5);
+        due("9 another fault", Checks.race(x, "go 6 s=0;go 7 s=0;tear 9"), -34);
         due("9 the next", Checks.race(x, "lose 1"), 1);
         due("9 the newest holds", x.speed(0, 0, 0, 0), 0);
         due("9 the next", Checks.race(x, "go 8 s=0"), 2);

@@ -114,6 +114,10 @@ public final class SquallsTapesTest {
         due("26 odds of 0 are none", x.worst(0, 4), 35);
         Checks.race(x, "go 9 s=0;lose 20;tear 99 s=0;tear 1 s=0");
         due("26 below 0", x.worst(0, 4), -11 - 20 - 0);
+        x.make(0, 0, true);
+        x.set(1, 0);
+        Checks.race(x, "go 9 s=0;go 5 s=1&w=0;tear 1 s=0;wind 0 1 1");
+        due("26 one of a thousand", x.worst(0, 2), 9);
     }
 
     private static NineSails withLog(int... items) {
@@ -177,6 +181,9 @@ public final class SquallsTapesTest {
         due("27 below 0", x.judge(2, -1), 100);
         due("27 far below 0", x.judge(2, Integer.MIN_VALUE), 100);
         due("27 nothing there", x.judge(0, 0), 100);
+        x.tape(0, 0, 9);
+        x.tape(0, -1, 9);
+        due("27 nothing there any more", x.judge(0, 0), 100);
         x.item(2, 3, 1);
         due("27 it was down since", x.judge(2, 0), 3);
         x.item(2, 3, 256);
