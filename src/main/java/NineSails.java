@@ -1005,37 +1005,38 @@ public final class NineSails {
             return 0;
         }
 
+        /**
+         * The numbers together of all clauses of a word whose E holds. The truths that wait are bits, the newest
+         * the lowest: at most two for each of five levels wait.
+         */
         int total(int word, int sail, int weight, int wind, int time) {
             int sum = 0;
+            int from = 0;
             for (int i = 0; i < clauses; i++) {
-                if (words[i] == word && holds(i, sail, weight, wind, time)) {
+                int truths = 0;
+                for (int at = from; at < ends[i]; at++) {
+                    int code = codes[at];
+                    int newest = truths & 1;
+                    if (code == NOT) {
+                        truths ^= 1;
+                    } else if (code == AND) {
+                        truths = truths >> 1 & (newest | ~1);
+                    } else if (code == OR) {
+                        truths = truths >> 1 | newest;
+                    } else {
+                        int letter = code / 300;
+                        int value = letter == 0 ? sail : letter == 1 ? weight : letter == 2 ? wind : time;
+                        int than = code % 100;
+                        int order = value < than ? 0 : value == than ? 1 : 2;
+                        truths = truths << 1 | (order == code / 100 % 3 ? 1 : 0);
+                    }
+                }
+                if (words[i] == word && (truths & 1) == 1) {
                     sum += numbers[i];
                 }
+                from = ends[i];
             }
             return sum;
-        }
-
-        /** The truths that wait are bits, the newest the lowest: at most two for each of five levels wait. */
-        boolean holds(int clause, int sail, int weight, int wind, int time) {
-            int truths = 0;
-            for (int i = clause > 0 ? ends[clause - 1] : 0; i < ends[clause]; i++) {
-                int code = codes[i];
-                int newest = truths & 1;
-                if (code == NOT) {
-                    truths ^= 1;
-                } else if (code == AND) {
-                    truths = truths >> 1 & (newest | ~1);
-                } else if (code == OR) {
-                    truths = truths >> 1 | newest;
-                } else {
-                    int letter = code / 300;
-                    int value = letter == 0 ? sail : letter == 1 ? weight : letter == 2 ? wind : time;
-                    int than = code % 100;
-                    int order = value < than ? 0 : value == than ? 1 : 2;
-                    truths = truths << 1 | (order == code / 100 % 3 ? 1 : 0);
-                }
-            }
-            return (truths & 1) == 1;
         }
     }
 
