@@ -281,8 +281,8 @@ public final class ModelTest {
 
     public static void main(String[] args) {
         Checks checks = new Checks();
-        int runs = args.length > 1 ? Integer.parseInt(args[1]) : 400;
-        int from = args.length > 2 ? Integer.parseInt(args[2]) : 1;
+        int runs = args.length > 2 ? Integer.parseInt(args[2]) : 400;
+        int from = args.length > 3 ? Integer.parseInt(args[3]) : 1;
         for (int run = from; run < from + runs && !checks.failed(); run++) {
             seed = run * 1000003L + 17;
             strays = 8 + 30 * (run % 3);
