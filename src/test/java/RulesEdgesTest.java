@@ -20,6 +20,7 @@ public final class RulesEdgesTest {
         bestOfSeveral();
         watch();
         told();
+        anHourByHowAllIs();
         anHour();
         anHourTears();
         anHourLate();
@@ -302,6 +303,27 @@ public final class RulesEdgesTest {
     }
 
     // ---- terms: an hour
+
+    private static void anHourByHowAllIs() {
+        says("AN HOUR: the RULE PICKS by how all is; that is up then");
+        NineSails x = with(3, "go 9 s=0&w=0&t=1;go 9 s=1&w=1&t=2;go 9 s=2&w=2;wind 0 1 9;wind 1 2 9");
+        x.rule(TABLE, 0);
+        x.set(2, 1);
+        x.make(2, 1, false);
+        due("by the wind and hour that are, not by the next", x.go(0, false, 1), 9);
+        due("up", x.ship(0), 0);
+        due("by the wind and hour that are now", x.go(0, false, 2), 9);
+        due("up", x.ship(0), 1);
+        due("by what is aboard", x.go(0, false, 2), 0);
+        due("up", x.ship(0), 0);
+        x.make(2, 1, true);
+        due("by what is aboard now", x.go(0, false, 2), 9);
+        due("up", x.ship(0), 2);
+        x = with(1, "go 9 s=0");
+        x.rule(WATCH, 0);
+        due("none is picked", x.go(0, false, 0), 0);
+        due("none is up then", x.ship(0), -5);
+    }
 
     private static void anHour() {
         says("MILES are more by its SPEED, and less by lose, if it is a SAIL other than was up");

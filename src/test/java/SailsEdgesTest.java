@@ -69,6 +69,15 @@ public final class SailsEdgesTest {
         says("(WHOLE and ABOARD at first)");
         for (int i = 0; i < 6; i++) due("whole at first", x.of(i, 2), 1);
         for (int i = 0; i < 6; i++) due("aboard at first", x.of(i, 3), 1);
+        says("each is WHOLE or torn, ABOARD or not");
+        for (int i = 0; i < 6; i++) {
+            for (int bits : new int[] {0, 1, 2, 3}) {
+                x.make(i, 0, (bits & 1) == 1);
+                x.make(i, 1, (bits & 2) == 2);
+                due("whole " + i, x.of(i, 2), bits & 1);
+                due("aboard " + i, x.of(i, 3), bits >> 1);
+            }
+        }
     }
 
     private static void theShipAtFirst() {

@@ -16,6 +16,7 @@ public final class SquallsEdgesTest {
         made();
         worst();
         bodies();
+        bodiesOfTheKindsAbove();
         wrapping();
         theTrace();
         theImage();
@@ -23,6 +24,7 @@ public final class SquallsEdgesTest {
         tapes();
         items();
         itemsOfSorts();
+        aLog();
         judged();
         judgedShort();
         judgedNothing();
@@ -38,6 +40,8 @@ public final class SquallsEdgesTest {
         shift();
         shiftPlaces();
         shiftRefused();
+        answers();
+        changesNothing();
         constants();
         DOC.end(args);
     }
@@ -147,36 +151,65 @@ public final class SquallsEdgesTest {
         due(call + ", no more", x.trace(ran.length), -1);
     }
 
-    private static void bodies() {
-        says("picks(..) and so on: the body of its KIND, or, if that has none, of the next KIND above that has one; super.picks(..): so from the KIND above the body's on; all that stands in a body is done from the left on.");
+    /** A rule of each kind, numbered as its kind, with numbers v that differ. */
+    private static NineSails ofEachKind() {
         NineSails x = new NineSails();
         int[] v = {5, 4, 3, 2, 1, 9, 8};
         for (int kind = 0; kind < 7; kind++) x.rule(kind, v[kind]);
+        return x;
+    }
+
+    private static void bodies() {
+        NineSails x = ofEachKind();
+        says("BODIES: RULE: 10 picks: x + i. 11 reefs: picks(x) - v. 12 tells: reefs(x) * 2.");
         act(x, 0, 0, 10, 10, 10);
         act(x, 0, 1, 10, 5, 11, 10);
         act(x, 0, 2, 10, 10, 12, 11, 10);
+        says("TABLE: 20 reefs: super.reefs(x) ^ 6.");
         act(x, 1, 0, 10, 11, 10);
         act(x, 1, 1, 10, 7 ^ 6, 20, 11, 10);
+        act(x, 1, 1, 9, 0, 20, 11, 10);
         act(x, 1, 2, 10, (7 ^ 6) * 2, 12, 20, 11, 10);
+        says("HOLD: 30 picks: super.picks(x * 3).");
         act(x, 2, 0, 10, 32, 30, 10);
         act(x, 2, 1, 10, 29, 11, 30, 10);
         act(x, 2, 2, 10, 58, 12, 11, 30, 10);
-        act(x, 3, 0, 10, -13, 50, 10);
-        act(x, 3, 1, 10, (-14 - 2) ^ 6, 51, 20, 11, 50, 10);
-        act(x, 3, 2, 10, ((-14 - 2) ^ 6) * 2, 12, 51, 20, 11, 50, 10);
-        act(x, 4, 0, 10, 34, 30, 10);
-        act(x, 4, 1, 10, 33, 11, 30, 10);
-        act(x, 4, 2, 10, (6 * 3 + 4 - 1) * 2, 60, 12, 11, 30, 10);
+        says("WATCH: 40 tells: super.tells(x) + reefs(1).");
         act(x, 5, 0, 10, 15, 10);
         act(x, 5, 1, 10, 6, 11, 10);
         act(x, 5, 2, 10, 6 * 2 + (1 + 5 - 9), 40, 12, 11, 10, 11, 10);
+        says("SAFE: 50 picks: -super.picks(x). 51 reefs: super.reefs(x + 1).");
+        act(x, 3, 0, 10, -13, 50, 10);
+        act(x, 3, 1, 10, (-14 - 2) ^ 6, 51, 20, 11, 50, 10);
+        act(x, 3, 2, 10, ((-14 - 2) ^ 6) * 2, 12, 51, 20, 11, 50, 10);
+        says("BEST: 60 tells: super.tells(x - i).");
+        act(x, 4, 0, 10, 34, 30, 10);
+        act(x, 4, 1, 10, 33, 11, 30, 10);
+        act(x, 4, 2, 10, (6 * 3 + 4 - 1) * 2, 60, 12, 11, 30, 10);
+        says("TOLD: 70 reefs: super.reefs(x) + super.picks(2). 71 picks: super.picks(x) ^ v.");
         act(x, 6, 0, 10, 16 ^ 8, 71, 10);
         act(x, 6, 0, 2, 0, 71, 10);
         act(x, 6, 0, 3, 1, 71, 10);
-        act(x, 1, 1, 9, 0, 20, 11, 10);
         act(x, 6, 1, 10, (16 ^ 8) - 8 + 8, 70, 11, 71, 10, 10);
         int reefsOf1 = (7 ^ 8) - 8 + 8;
         act(x, 6, 2, 10, (16 ^ 8) * 2 + reefsOf1, 40, 12, 70, 11, 71, 10, 10, 70, 11, 71, 10, 10);
+    }
+
+    private static void bodiesOfTheKindsAbove() {
+        says("picks(..) and so on: the body of its KIND, or, if that has none, of the next KIND above that has one; super.picks(..): so from the KIND above the body's on; all that stands in a body is done from the left on.");
+        NineSails x = ofEachKind();
+        // Which body runs first, by kinds and acts.
+        int[][] first = {{10, 11, 12}, {10, 20, 12}, {30, 11, 12}, {50, 51, 12}, {30, 11, 60}, {10, 11, 40}, {71, 70, 40}};
+        for (int kind = 0; kind < 7; kind++) {
+            for (int act = 0; act < 3; act++) {
+                x.act(kind, act, 0);
+                due("act " + act + " of kind " + kind + " begins", x.trace(0), first[kind][act]);
+            }
+        }
+        act(x, 3, 1, 0, -6 ^ 6, 51, 20, 11, 50, 10);
+        act(x, 4, 2, 4, (0 * 3 + 4 - 1) * 2, 60, 12, 11, 30, 10);
+        act(x, 6, 1, 2, (8 ^ 8) - 8 + 8, 70, 11, 71, 10, 10);
+        act(x, 5, 2, 4, 0 * 2 - 3, 40, 12, 11, 10, 11, 10);
     }
 
     private static void wrapping() {
@@ -408,6 +441,29 @@ public final class SquallsEdgesTest {
         x.tape(0, BYTES, items.length);
         for (int i = 0; i < items.length; i++) x.item(0, i, items[i]);
         return x;
+    }
+
+    private static void aLog() {
+        says("A log: a row of bytes, from a place on, one SAIL for each HOUR of THE SQUALL (from how THE SHIP is), is JUDGED");
+        NineSails x = withLog(1, 0, 2, 2, 1);
+        due("a change to it takes more hands", x.hoist(2), -3);
+        winds(x, 3);
+        due("one hour, its first item alone", x.judge(0, 0), -5);
+        winds(x, 3, 3);
+        due("two hours, two items", x.judge(0, 0), -5);
+        due("from place 1 on", x.judge(0, 1), 1);
+        due("from place 2 on", x.judge(0, 2), 0);
+        due("from place 4 on", x.judge(0, 4), 101);
+        x.set(0, 5);
+        x.hoist(2);
+        x.set(0, 4);
+        due("up, as the ship is", x.judge(0, 2), -5);
+        due("down by then", x.judge(0, 1), 1);
+        winds(x, 3, 3, 3);
+        due("up for two hours, another then", x.judge(0, 2), -5);
+        due("the ship has it up still", x.ship(0), 2);
+        x.tape(0, BYTES, 5);
+        due("another row, from place 0 on", x.judge(0, 0), -5);
     }
 
     private static void judged() {
@@ -762,6 +818,75 @@ public final class SquallsEdgesTest {
             for (int t = 0; t < 5; t++) for (int o = 0; o < 5; o++) due("sorts " + t + ", " + o, x.shift(t, i, o, 0, 1), t == o ? -13 : -12);
         }
         for (int t = 0; t < 5; t++) for (int o = 0; o < 5; o++) due("none, of sorts " + t + ", " + o, x.shift(t, 0, o, 0, 0), t == o ? 0 : -12);
+    }
+
+    // ---- answers
+
+    private static void answers() {
+        says("NONE (-1) no such number; BAD (-2) a number is not as told; STATE (-3) as told; FULL (-4); the first that a call's words name.");
+        NineSails x = with(6, "lose 3");
+        for (int i = 0; i < 10; i++) x.rule(i % 7, 0);
+        winds(x, 0, 1, 2, 3, 0, 1);
+        x.hoist(0);
+        due("no such sail", x.hoist(6), -1);
+        due("none, with bad", x.speed(6, 0, 100, 0), -1);
+        due("bad", x.speed(5, 0, 100, 0), -2);
+        due("bad, with full", x.sail(10, 1), -2);
+        due("full", x.sail(9, 1), -4);
+        due("none, with bad and full", x.rule(7, 10), -1);
+        due("bad, with full", x.rule(6, 10), -2);
+        due("full", x.rule(6, 9), -4);
+        due("none, with state", x.line(0, 4, 0), -1);
+        due("state", x.line(0, 3, 0), -3);
+        due("none, with state", x.make(0, 2, false), -1);
+        due("state", x.make(0, 1, false), -3);
+        due("none, with full", x.squall(4), -1);
+        due("full", x.squall(3), -4);
+    }
+
+    private static NineSails busy() {
+        NineSails x = with(4, "go 9 s<3;tear 10 s=1;lose 3;wind 0 1 5");
+        for (int kind = 0; kind < 7; kind++) x.rule(kind, 2);
+        winds(x, 0, 1, 2);
+        x.tape(0, BYTES, 3);
+        x.hoist(1);
+        x.image();
+        x.go(0, false, 1);
+        x.act(6, 2, 3);
+        Checks.feed(x, "go 1 s=");
+        return x;
+    }
+
+    private static void changesNothing() {
+        says("What is answered so changes nothing; what is asked changes nothing.");
+        NineSails untouched = busy(), refused = busy(), asked = busy();
+        due("refused", refused.make(1, 0, false), -3);
+        due("refused", refused.set(1, 4), -2);
+        due("refused", refused.hoist(5), -1);
+        due("refused", refused.feed(0, 5), -2);
+        due("refused", refused.line(1, 0, 0), -3);
+        due("refused", refused.go(0, true, 3), -1002);
+        due("refused", refused.squall(4), -1);
+        due("refused", refused.tape(0, 0, 61), -2);
+        due("refused", refused.item(0, 3, 1), -13);
+        due("refused", refused.shift(0, 0, 0, 2, 2), -13);
+        for (int rule = 0; rule < 7; rule++) {
+            asked.picks(rule);
+            asked.mean(rule, 3, 0);
+            asked.sure(rule, 3, 9, 0);
+            asked.few(rule, 6, 2);
+            asked.torn(rule, 1, 3, 0);
+            asked.sleep(rule, 3, 0);
+            asked.made(rule);
+            asked.worst(rule, 3);
+            asked.taken(rule, 0);
+        }
+        asked.edge(3);
+        asked.lines(2, 0);
+        asked.judge(0, 0);
+        String all = Snapshot.of(untouched);
+        DOC.dueText("what was refused", Snapshot.of(refused), all);
+        DOC.dueText("what was asked", Snapshot.of(asked), all);
     }
 
     private static void constants() {
